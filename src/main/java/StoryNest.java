@@ -257,7 +257,7 @@ public final class StoryNest {
         if (pad.faultAs(AS_WALL) != NONE) {
             return NO;
         }
-        return isIn(place, 0, pad.size - 1) ? wall.tellersOf(place) : NONE;
+        return isIn(place, 0, pad.size - 1) ? wall.storiesAt(place) : NONE;
     }
 
     public int left(int teller, int what) {
@@ -1108,7 +1108,7 @@ public final class StoryNest {
             return NONE;
         }
 
-        int tellersOf(int place) {
+        int storiesAt(int place) {
             evenings();
             for (int node = 0; node < nights.size; node++) {
                 isReached[node] = node == 0;

@@ -30,6 +30,9 @@ public final class StoryNestFuzz {
         for (int seed = 1; seed <= runs && wrong == 0; seed++) {
             run(new Random(seed), seed);
         }
+        for (int seed = 1; seed <= 6 && wrong == 0; seed++) {
+            large(new Random(seed), seed % 2);
+        }
         System.out.println("fuzz: " + asked + " answers, " + wrong + " not as due");
         if (wrong != 0) {
             System.exit(1);
@@ -52,6 +55,39 @@ public final class StoryNestFuzz {
                 ask(r, x, p);
             }
         }
+    }
+
+    /** Four stories of four parts; under INNER and OUTER all their evenings can still be written out. */
+    private static void large(Random r, int law) {
+        log.setLength(0);
+        StoryNest x = new StoryNest();
+        PlainNest p = new PlainNest();
+        for (int s = 0; s < 4; s++) {
+            for (int part = 0; part < 4; part++) {
+                type((part > 0 && r.nextInt(8) != 0 ? ":" : "") + (char) ('1' + r.nextInt(3)), x, p);
+            }
+            same("story(" + s + ")", x.story(s), p.story(s));
+        }
+        same("set(0," + law + ")", x.set(0, law), p.set(0, law));
+        same("set(1,2)", x.set(1, 2), p.set(1, 2));
+        for (int w = r.nextInt(4); w > 0; w--) {
+            int s = r.nextInt(3);
+            int part = r.nextInt(4);
+            same("wait(" + s + "," + part + ",3)", x.wait(s, part, 3), p.waitFor(s, part, 3));
+        }
+        same("ways(15,4)", x.ways(15, 4), p.ways(15, 4));
+        same("ways(15,2)", x.ways(15, 2), p.ways(15, 2));
+        int s = r.nextInt(4);
+        for (int i = -1; i < 3; i++) {
+            int at = i < 0 ? -1 : r.nextInt(16);
+            same("shortest(15,3," + at + ")", x.shortest(15, 3, at), p.shortest(15, 3, at));
+            same("ends(" + s + ",15,3," + at + ")", x.ends(s, 15, 3, at), p.ends(s, 15, 3, at));
+        }
+        for (int minute = 4; minute < 60; minute++) {
+            same("turns(" + s + ",15," + minute + ",1)", x.turns(s, 15, minute, 1), p.turns(s, 15, minute, 1));
+        }
+        text(r, x, p);
+        text(r, x, p);
     }
 
     private static void type(String text, StoryNest x, PlainNest p) {

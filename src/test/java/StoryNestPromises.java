@@ -111,6 +111,7 @@ public final class StoryNestPromises {
         p23();
         p24and25();
         p26();
+        questionsFollowChanges();
         extremes();
         System.out.println("promises: " + right + " passed, " + wrong + " failed");
         if (wrong != 0) {
@@ -291,6 +292,7 @@ public final class StoryNestPromises {
         due("9 number", x.wait(0, 0, 1), 0);
         due("9 next number", x.wait(0, 1, 1), 1);
         due("9 there already", x.wait(0, 0, 1), NO);
+        due("9 there already, too", x.wait(0, 1, 1), NO);
         due("9 no part", x.wait(0, 2, 1), UNKNOWN);
         due("9 part -1", x.wait(0, -1, 1), UNKNOWN);
         due("9 no story", x.wait(4, 0, 1), UNKNOWN);
@@ -512,6 +514,55 @@ public final class StoryNestPromises {
         text("16 a in b would hold both, so only ends of whole evenings count", ends(x, 0, 3, 2), "2 4");
         x.wait(2, 0, 1);
         text("16 c behind b", ends(x, 2, 7, 4), "15");
+        // c at minute 7 wants a and b both open: b in a can not end, as b waits for a; a in b can not, as a waits for
+        // d, whose teller has b open.
+        StoryNest y = nest("1:1", "2:2", "4", "8");
+        y.wait(1, 1, 0);
+        y.wait(0, 1, 3);
+        text("16 before d has b's teller", ends(y, 2, 15, 4), "4 5 6 7 12 13 14 15 16 18");
+        y.teller(3, 1);
+        text("16 when d has b's teller", ends(y, 2, 15, 4), "4 5 12 13 14 15 16 18");
+        StoryNest z = nest("9:9:9:9", "9:9:9:9", "9:9:9:9", "9:9:9:9");
+        due("16 the last minute of all", z.ends(0, 15, 4, z.ends(0, 15, 4, -1) - 1), 144);
+        due("16 16 parts, the first end at 36", z.ends(0, 15, 4, -1), 13);
+        z.wait(0, 0, 1);
+        z.wait(0, 0, 2);
+        z.wait(0, 0, 3);
+        text("16 a last", ends(z, 0, 15, 4), "144");
+        text("16 the marks are cleared", ends(z, 0, 1, 1), "36");
+        due("17 the last minute", z.turns(0, 15, 144, 0), 1);
+    }
+
+    /** Each call that changes the book, between two of the same question. */
+    private static void questionsFollowChanges() {
+        StoryNest x = nest("1:1", "1:1");
+        due("ways of a and b", x.ways(3, 2), 4);
+        type(x, "11");
+        x.story(0);
+        due("story: no gate in a", x.ways(3, 2), 3);
+        x.image(0);
+        x.wait(0, 1, 1);
+        due("wait: b first", x.ways(3, 2), 1);
+        x.drop(0);
+        due("drop: as before", x.ways(3, 2), 3);
+        x.teller(0, 1);
+        due("teller: one behind the other", x.ways(3, 2), 2);
+        x.teller(0, 0);
+        due("teller: as before", x.ways(3, 2), 3);
+        x.set(0, 2);
+        due("set: b's gate alone", x.ways(3, 2), 4);
+        x.restore(0);
+        due("restore: as it was", x.ways(3, 2), 3);
+        due("another set", x.ways(1, 2), 1);
+        due("another depth", x.ways(3, 1), 2);
+        x.wait(0, 1, 1);
+        due("b first, b's part may wait", x.wait(1, 1, 0), 1);
+        due("ring", x.ways(3, 2), 0);
+        type(x, "5");
+        x.story(1);
+        type(x, "1:1");
+        x.story(1);
+        due("story: the wait has gone, nothing of it stays", x.ways(3, 2), 1);
     }
 
     private static void p17() {
@@ -712,6 +763,8 @@ public final class StoryNestPromises {
         x.set(1, 1);
         due("25 again", x.restore(1), 1);
         due("25 the image has not changed", x.told(3), 5);
+        x.image(1);
+        due("24 kept again", x.restore(1), 1);
         due("25 the other one", x.restore(0), 1);
         due("25 other parts", x.about(0, 1), 27);
         due("25 other waits", x.told(31), 301);
