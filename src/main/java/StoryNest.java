@@ -193,14 +193,19 @@ public final class StoryNest {
     // ---- 3 told out
 
     public long ways(int set, int deep) {
-        return isSet(set) && isDeep(deep) ? out.evenings(set, deep) : OUTSIDE;
+        if (!isSet(set) || !isDeep(deep)) {
+            return OUTSIDE;
+        }
+        nights.gather(set, deep);
+        return out.evenings();
     }
 
     public int shortest(int set, int deep, int i) {
         if (!isSet(set) || !isDeep(deep) || i < -1) {
             return OUTSIDE;
         }
-        return i == -1 ? out.leastMinutes(set, deep) : out.leastLetter(set, deep, i);
+        nights.gather(set, deep);
+        return i == -1 ? out.leastMinutes() : out.leastLetter(i);
     }
 
     public int ends(int story, int set, int deep, int i) {
@@ -210,7 +215,8 @@ public final class StoryNest {
         if (!isSet(set) || !isDeep(deep) || i < -1) {
             return OUTSIDE;
         }
-        out.markEnds(story, set, deep);
+        nights.gather(set, deep);
+        out.markEnds(story);
         return i == -1 ? out.marked() : out.markedMinute(i);
     }
 
@@ -221,7 +227,8 @@ public final class StoryNest {
         if (!isSet(set) || !isIn(minute, 0, MINUTES) || !isIn(what, 0, 1)) {
             return OUTSIDE;
         }
-        game.play(story, set, minute);
+        nights.gather(set, STORIES);
+        game.play(story, minute);
         int begin = game.winningBegin();
         if (what == 1) {
             return begin;
@@ -246,18 +253,30 @@ public final class StoryNest {
     // ---- 4 heard, left
 
     public long heard() {
-        return pad.faultAs(AS_WALL) == NONE ? wall.evenings() : NO;
+        if (pad.faultAs(AS_WALL) != NONE) {
+            return NO;
+        }
+        nights.gather(ALL, STORIES);
+        return wall.evenings();
     }
 
     public int first(int i) {
-        return pad.faultAs(AS_WALL) == NONE ? wall.firstLetter(i) : NO;
+        if (pad.faultAs(AS_WALL) != NONE) {
+            return NO;
+        }
+        nights.gather(ALL, STORIES);
+        return wall.firstLetter(i);
     }
 
     public int who(int place) {
         if (pad.faultAs(AS_WALL) != NONE) {
             return NO;
         }
-        return isIn(place, 0, pad.size - 1) ? wall.storiesAt(place) : NONE;
+        if (!isIn(place, 0, pad.size - 1)) {
+            return NONE;
+        }
+        nights.gather(ALL, STORIES);
+        return wall.storiesAt(place);
     }
 
     public int left(int teller, int what) {
@@ -852,7 +871,7 @@ public final class StoryNest {
         }
     }
 
-    /** The evenings by which a set is told out. */
+    /** The evenings by which the set whose nights are gathered is told out. */
     private static final class Out {
         /** More breath than any evening takes: no evening comes of this night. */
         private static final int ENDLESS = 10000;
@@ -868,8 +887,7 @@ public final class StoryNest {
             this.nights = nights;
         }
 
-        long evenings(int set, int deep) {
-            nights.gather(set, deep);
+        long evenings() {
             for (int node = nights.size - 1; node >= 0; node--) {
                 long sum = nights.isAllOut(node) ? 1 : 0;
                 for (int s = 0; s < STORIES; s++) {
@@ -881,21 +899,21 @@ public final class StoryNest {
             return nights.worth[0];
         }
 
-        int leastMinutes(int set, int deep) {
-            priceAll(set, deep);
+        int leastMinutes() {
+            priceAll();
             int breath = leastPrice(0, NONE);
             if (breath >= ENDLESS) {
                 return NONE;
             }
             int sum = breath;
             for (int s = 0; s < STORIES; s++) {
-                sum += (set >> s & 1) == 0 ? 0 : book.minutesOf(s, book.parts[s]);
+                sum += (nights.set >> s & 1) == 0 ? 0 : book.minutesOf(s, book.parts[s]);
             }
             return sum;
         }
 
-        int leastLetter(int set, int deep, int i) {
-            priceAll(set, deep);
+        int leastLetter(int i) {
+            priceAll();
             int node = 0;
             int last = NONE;
             for (int place = 0; place < STORIES * PARTS && node != NONE; place++) {
@@ -910,8 +928,7 @@ public final class StoryNest {
         }
 
         /** What each night is worth: for each teller that told last the least breath still to come, packed. */
-        private void priceAll(int set, int deep) {
-            nights.gather(set, deep);
+        private void priceAll() {
             for (int node = nights.size - 1; node >= 0; node--) {
                 nights.worth[node] = nights.isAllOut(node) ? 0 : packedPrices(node);
             }
@@ -967,11 +984,11 @@ public final class StoryNest {
             return NONE;
         }
 
-        void markEnds(int story, int set, int deep) {
+        void markEnds(int story) {
             for (int m = 0; m <= MINUTES; m++) {
                 isEnd[m] = false;
             }
-            evenings(set, deep);
+            evenings();
             for (int node = 0; node < nights.size; node++) {
                 int to = nights.nodeAfter(node, story);
                 if (to != NONE && nights.isOut(to, story) && nights.worth[to] > 0) {
@@ -1006,7 +1023,7 @@ public final class StoryNest {
         }
     }
 
-    /** Two sides tell by turns; side 0 wishes that a story is told out at just a minute. */
+    /** Two sides tell the gathered set by turns; side 0 wishes that a story is told out at just a minute. */
     private static final class Game {
         private final Nights nights;
 
@@ -1015,8 +1032,7 @@ public final class StoryNest {
         }
 
         /** What each night is worth: 1 if side 0 can have its wish from there. */
-        void play(int story, int set, int minute) {
-            nights.gather(set, STORIES);
+        void play(int story, int minute) {
             for (int node = nights.size - 1; node >= 0; node--) {
                 boolean wins = nights.isOut(node, story) ? nights.minutesAt(node) == minute : canWin(node);
                 nights.worth[node] = wins ? 1 : 0;
@@ -1048,7 +1064,7 @@ public final class StoryNest {
         }
     }
 
-    /** What was heard through the wall: the pad, as minutes of parts. */
+    /** What was heard through the wall: the pad, as minutes of parts; the nights of all stories are gathered. */
     private static final class Wall {
         private final Book book;
         private final Nights nights;
@@ -1063,7 +1079,6 @@ public final class StoryNest {
 
         /** How many evenings there are; what each night is worth: in how many ways the rest of the wall comes. */
         long evenings() {
-            nights.gather(ALL, STORIES);
             for (int node = nights.size - 1; node >= 0; node--) {
                 int place = Moment.allPartsTold(nights.nights[node]);
                 long sum = place == pad.size ? 1 : 0;
