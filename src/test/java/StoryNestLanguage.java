@@ -1,3 +1,5 @@
+import java.io.PrintWriter;
+import java.io.StringWriter;
 import java.lang.reflect.Constructor;
 import java.lang.reflect.Field;
 import java.lang.reflect.Method;
@@ -6,9 +8,12 @@ import java.nio.charset.StandardCharsets;
 import java.nio.file.Files;
 import java.nio.file.Path;
 import java.util.Arrays;
+import java.util.HashMap;
 import java.util.HashSet;
+import java.util.Map;
 import java.util.Set;
 import java.util.TreeSet;
+import java.util.spi.ToolProvider;
 import java.util.regex.Matcher;
 import java.util.regex.Pattern;
 
@@ -41,6 +46,7 @@ public final class StoryNestLanguage {
         rule(11, StoryNest.class.getDeclaredClasses().length < 12, "too many classes");
         words(source);
         lengths(source);
+        depths();
         System.out.println(wrong == 0 ? "the rules hold" : wrong + " faults against the rules");
         if (wrong != 0) {
             System.exit(1);
@@ -106,6 +112,52 @@ public final class StoryNestLanguage {
         for (Method m : c.getDeclaredMethods()) {
             rule(11, m.getParameterCount() <= 7, "parameters of " + m);
         }
+    }
+
+    /** Rules 8 and 11: the calls that stand open at once, by what javap tells of the compiled classes. */
+    private static void depths() throws Exception {
+        if (ToolProvider.findFirst("javap").isEmpty()) {
+            System.out.println("no javap here: how deep calls go is not looked at");
+            return;
+        }
+        Map<String, Set<String>> calls = new HashMap<>();
+        gatherCalls(StoryNest.class, calls);
+        for (Class<?> c : StoryNest.class.getDeclaredClasses()) {
+            gatherCalls(c, calls);
+        }
+        for (String method : calls.keySet()) {
+            rule(11, depth(method, calls, 1) <= 8, "calls more than eight deep from " + method);
+        }
+    }
+
+    private static void gatherCalls(Class<?> c, Map<String, Set<String>> calls) {
+        StringWriter text = new StringWriter();
+        PrintWriter to = new PrintWriter(text);
+        Path home = Path.of(System.getProperty("java.class.path"));
+        ToolProvider.findFirst("javap").get().run(to, to, "-p", "-c", home.resolve(c.getName() + ".class").toString());
+        Pattern method = Pattern.compile("^  \\S.*?([\\w$]+)\\(.*\\);$");
+        Pattern call = Pattern.compile("// (?:Interface)?Method (?:(StoryNest[\\w$]*)\\.)?\"?([\\w<>]+)\"?:");
+        String now = "";
+        for (String line : text.toString().split("\n")) {
+            Matcher begin = method.matcher(line);
+            Matcher called = call.matcher(line);
+            if (begin.find()) {
+                now = c.getName() + "." + (begin.group(1).equals(c.getName()) ? "<init>" : begin.group(1));
+                calls.computeIfAbsent(now, n -> new HashSet<>());
+            } else if (called.find() && calls.containsKey(now)) {
+                calls.get(now).add((called.group(1) == null ? c.getName() : called.group(1)) + "." + called.group(2));
+            }
+        }
+    }
+
+    private static int depth(String method, Map<String, Set<String>> calls, int above) {
+        int deepest = above;
+        for (String next : calls.getOrDefault(method, Set.of())) {
+            if (calls.containsKey(next) && above <= 8) {
+                deepest = Math.max(deepest, depth(next, calls, above + 1));
+            }
+        }
+        return deepest;
     }
 
     private static void words(String source) {
